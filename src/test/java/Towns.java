@@ -1,0 +1,49 @@
+/** Objects with a town told by its text, for tests. */
+final class Towns {
+    static final int TEXT_SHELF = 7;
+
+    private Towns() {
+    }
+
+    /** A new object with a town; the text may be longer than a row, it is told in parts. */
+    static ThoughtBetterOf of(String text) {
+        ThoughtBetterOf x = new ThoughtBetterOf();
+        StringBuilder part = new StringBuilder();
+        for (String statement : text.split("(?<=;)")) {
+            if (part.length() + statement.length() > 100) {
+                tellAll(x, part.toString());
+                part.setLength(0);
+            }
+            part.append(statement);
+        }
+        if (part.length() > 0) {
+            tellAll(x, part.toString());
+        }
+        return x;
+    }
+
+    private static void tellAll(ThoughtBetterOf x, String text) {
+        int answer = tell(x, text);
+        if (answer < 0) {
+            throw new IllegalArgumentException(text + " is not a town: " + answer);
+        }
+        x.keep(TEXT_SHELF, 0, 0, 0);
+    }
+
+    /** What town() answers to a text of at most 100 bytes. */
+    static int tell(ThoughtBetterOf x, String text) {
+        x.row(TEXT_SHELF, 0, text.length());
+        for (int i = 0; i < text.length(); i++) {
+            x.put(TEXT_SHELF, i, text.charAt(i));
+        }
+        return x.town(TEXT_SHELF);
+    }
+
+    /** A row of a sort on a shelf. */
+    static void row(ThoughtBetterOf x, int d, int sort, int... values) {
+        x.row(d, sort, values.length);
+        for (int i = 0; i < values.length; i++) {
+            x.put(d, i, values[i]);
+        }
+    }
+}
