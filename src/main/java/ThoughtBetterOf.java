@@ -1431,8 +1431,11 @@ public final class ThoughtBetterOf {
 
         /** Whether a thought is there at an HOUR's end, something left of it, not sold. */
         private boolean isForSale(int thought, int hour) {
+            if (side[thought] == 0 || from[thought] > hour) {
+                return false;
+            }
             boolean sold = buyer[thought] >= 0 && due[buyer[thought]] <= hour;
-            return side[thought] != 0 && from[thought] <= hour && !sold && leftOf(thought, hour) > 0;
+            return !sold && leftOf(thought, hour) > 0;
         }
 
         int toldChoice(int p) {

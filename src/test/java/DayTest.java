@@ -215,6 +215,12 @@ public final class DayTest {
         Due.is("sums(2)", x.sums(2), 2);
         Due.is("sums(3)", x.sums(3), 1);
         Due.is("sums(4), a plant's price", x.sums(4), 9);
+        Due.is("sums(4), the first pays", Towns.of("t0+050700;p00000+009;p00000+009;").sums(4), 7);
+        ThoughtBetterOf y = Towns.of("o12;f0-912;t0+050700;t0+050700;" + "p00000+009;".repeat(8));
+        int[] eight = {2, 0, 6, 2, 14, 8};
+        for (int what = 0; what < eight.length; what++) {
+            Due.is("eight, sums(" + what + ")", y.sums(what), eight[what]);
+        }
         Due.is("sums(6)", x.sums(6), -1);
         Due.is("sums(-1)", x.sums(-1), -1);
     }

@@ -47,6 +47,8 @@ public final class ExplainedTest {
         explained("o10;d2;f0+509;p00008-320;p00011-510;", 22, 0, 2, 1);
         // with p00013: the law of now is none of those that fit: OPEN 0 to 13 with 0, 12 and 13 with 1, 13 with 2 to 9
         explained("o10;d2;f0+509;p00008-320;p00013-510;p00113+010;t1+200013;", 14 + 2 + 8, 0, 2, 1, 1);
+        // those of whom nothing is told do not matter
+        explained("o10;d2;p00005+120;p00005+020;p00005+120;p00005-120;", 240, 0, 1);
         // a greater FADE alone explains it: with 8 nothing is left
         explained("o10;d2;t0+400000;p00005-320;", 24 * 2, 800, 2);
     }
@@ -79,6 +81,10 @@ public final class ExplainedTest {
         forged(BOTH_CASES, -4, 2, 1, 2, 1);
         forged(BOTH_CASES, -4, 2, -1, 2, 1);
         forged(BOTH_CASES, 2, 2, 0, 1, 1);
+        // just one FADE explains it: 9; 0; just one OPEN: 23
+        forged("o10;d2;t0+190002;p00004-109;", -4, 2);
+        forged("o10;d2;t0+050000;p00005+009;", -4, 1);
+        forged("o10;d2;f0+509;t1+050000;p00008-420;p00023-510;p00105+010;", -4, 2, 1, 0);
     }
 
     private static void promise36And37Refusals() {

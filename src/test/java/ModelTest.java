@@ -61,24 +61,38 @@ public final class ModelTest {
 
     private static void askAll(Random random) {
         Model m = town(random);
+        // an object is asked less than 512 times, and once more at last: what is asked leaves the town as it is
+        askOfDay(told(m), m);
+        ThoughtBetterOf x = told(m);
+        askOfPeople(x, m, random);
+        askSums(x, m);
+        x = told(m);
+        askOfSets(x, m, random);
+        askOfChoices(x, m, random);
+        askSums(x, m);
+        x = told(m);
+        askOfCoins(x, m, random);
+        askSums(x, m);
+    }
+
+    private static ThoughtBetterOf told(Model m) {
         ThoughtBetterOf x = Towns.of(m.toString());
         for (int f = 0; f < m.facts.size(); f++) {
             x.chance(f, m.facts.get(f)[3]);
         }
-        // what is asked must leave the town as it is, so that all of it is asked of one and the same object
-        for (int round = 0; round < 2; round++) {
-            askOfDay(x, m);
-            askOfPeople(x, m);
-            askOfSets(x, m, random);
-            askOfRows(x, m, random);
-        }
+        return x;
     }
 
-    private static void askOfDay(ThoughtBetterOf x, Model m) {
+    private static void askSums(ThoughtBetterOf x, Model m) {
         Model.Day day = m.day();
         for (int what = 0; what < 6; what++) {
             Due.is(m + " sums(" + what + ")", x.sums(what), day.sums(what));
         }
+    }
+
+    private static void askOfDay(ThoughtBetterOf x, Model m) {
+        askSums(x, m);
+        Model.Day day = m.day();
         for (int hour = 0; hour < 24; hour++) {
             Due.is(m + " market(" + hour + ")", x.market(hour), day.market[hour]);
         }
@@ -104,7 +118,7 @@ public final class ModelTest {
         }
     }
 
-    private static void askOfPeople(ThoughtBetterOf x, Model m) {
+    private static void askOfPeople(ThoughtBetterOf x, Model m, Random random) {
         for (int p = 0; p < m.people.size(); p++) {
             Model.Person one = m.people.get(p);
             Due.is(m + " turners(" + p + ")", x.turners(p), m.turners(p));
@@ -115,7 +129,8 @@ public final class ModelTest {
                 Due.is(m + " moods(" + p + ", " + part + ")", x.moods(p, part), m.moods(p, part));
                 Due.is(m + " likely(" + p + ", " + part + ")", x.likely(p, part), m.likely(p, part));
             }
-            for (int v = 0; v < 30; v++) {
+            for (int i = 0; i < 3; i++) {
+                int v = random.nextInt(30);
                 Due.is(m + " price(" + p + ", " + v + ")", x.price(p, v), one.price(v, m.rate));
                 Due.is(m + " strength(" + p + ", " + (v - 15) + ")", x.strength(p, v - 15), one.strength(v - 15));
                 Due.is(m + " weighs(" + p + ", " + one.mood + ", " + (v - 15) + ")",
@@ -143,7 +158,7 @@ public final class ModelTest {
         }
     }
 
-    private static void askOfRows(ThoughtBetterOf x, Model m, Random random) {
+    private static void askOfChoices(ThoughtBetterOf x, Model m, Random random) {
         int n = m.people.size();
         int sort = random.nextInt(3);
         Model law = m.copy();
@@ -160,9 +175,13 @@ public final class ModelTest {
         Due.is(m + " explained(1, 0)", x.explained(1, 0), m.explained(choices, 0));
         Due.is(m + " explained(1, 1)", x.explained(1, 1), m.explained(choices, 1));
         Due.is(m + " forged(1)", x.forged(1), m.forged(choices));
-        for (int p = 0; p < n; p++) {
+    }
+
+    private static void askOfCoins(ThoughtBetterOf x, Model m, Random random) {
+        int sort = random.nextInt(3);
+        Model.Day now = m.day();
+        for (int p = 0; p < m.people.size(); p++) {
             int[] coins = new int[random.nextInt(30)];
-            Model.Day now = m.day();
             for (int h = 0; h < coins.length; h++) {
                 int by = random.nextInt(25);
                 coins[h] = by == 0 ? random.nextInt(100) : by < 3 || h > 23 && by < 20 ? LEAST[sort]

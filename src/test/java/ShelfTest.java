@@ -156,6 +156,7 @@ public final class ShelfTest {
             Due.is("row(0, " + sort + ", 0)", x.row(0, sort, 0), 0);
             Due.is("no place", x.put(0, 0, 1), -13);
             Due.is("row(0, " + sort + ", 3)", x.row(0, sort, 3), 0);
+            x.put(0, 0, 9);
             x.put(0, 2, 9);
             x.row(0, sort, 100);
             for (int i = 0; i < 100; i++) {

@@ -128,6 +128,8 @@ public final class TownTest {
         Due.is("two ends", Towns.tell(x, "d1;;"), -1003);
         x.row(0, 0, 100);
         Due.is("a row of 0", x.town(0), -1000);
+        Due.is("100 bytes, something lacks", Towns.tell(x, "d1;".repeat(33) + "d"), -1100);
+        Due.is("99 bytes", Towns.tell(x, "d1;".repeat(33)), 33);
         Due.is("a text with 0 behind", Towns.tell(x, "d1;\0"), -1003);
     }
 
@@ -240,6 +242,13 @@ public final class TownTest {
             Due.is("price(" + kind + ", 1)", x.price(kind, 1), ofOne[kind]);
             Due.is("price(" + kind + ", 0)", x.price(kind, 0), 0);
         }
+        x.set(2, 1);
+        int[] quarters = {0, 1, 1, 1, 1, 2, 2, 2, 2, 3};
+        for (int v = 0; v < quarters.length; v++) {
+            Due.is("price(0, " + v + ") with RATE 1", x.price(0, v), quarters[v]);
+            Due.is("price(6, " + v + ") with RATE 1", x.price(6, v), quarters[v] / 2);
+        }
+        Due.is("price(0, -1) with RATE 1", x.price(0, -1), -1);
         x.set(2, 9);
         for (int kind = 0; kind < 8; kind++) {
             Due.is("price(" + kind + ", 999)", x.price(kind, 999), most[kind]);

@@ -19,7 +19,17 @@ final class Towns {
         if (part.length() > 0) {
             tellAll(x, part.toString());
         }
+        tellFaulty(x);
         return x;
+    }
+
+    /** Another town with a fault: nothing of it may be seen in what is asked afterwards. */
+    private static void tellFaulty(ThoughtBetterOf x) {
+        int answer = tell(x, "o22;d8;r9;k01;k02;k03;k12;k13;k23;p00000-999;f0-900;t0-600000;r0;");
+        if (answer > -2034) {
+            throw new IllegalStateException("the faulty town answered " + answer);
+        }
+        x.keep(TEXT_SHELF, 0, 0, 0);
     }
 
     private static void tellAll(ThoughtBetterOf x, String text) {

@@ -308,6 +308,7 @@ public final class TurnTest {
         Due.is("bought the same", Towns.of("t0+090000;p00000+199;").without(), 0);
         Due.is("undecided without", Towns.of("t0+090000;p00000+099;").without(), 1);
         Due.is("plants are not bought, too", Towns.of("t0-090000;p00000+199;").without(), 1);
+        Due.is("two of eight", Towns.of("t0+050700;t0+050700;" + "p00000+009;".repeat(8)).without(), 2);
         Due.is("nobody", new ThoughtBetterOf().without(), 0);
     }
 
