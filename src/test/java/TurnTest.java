@@ -259,6 +259,8 @@ public final class TurnTest {
         x.leaves(1);
         Due.is("none from 12 on", x.bestOpen(), 12);
         Due.is("OPEN is as it was", x.count(3), 5);
+        Due.is("all eight until 11, seven from 12 on",
+                Towns.of("f0+509;f1+509;f1-912;p00108-320;" + "p00008-320;".repeat(7)).bestOpen(), 12);
         Due.is("just at the last", Towns.of("f0+509;f0-923;p00008-320;").bestOpen(), 23);
     }
 
