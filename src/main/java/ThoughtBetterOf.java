@@ -9,11 +9,17 @@ public final class ThoughtBetterOf {
     private static final int LAST_HOUR = 23;
     private static final int MOST_COINS = 99;
     private static final int MOST_MOOD = 9;
+    private static final int MOST_WEIGHT = 9;
+    private static final int LAST_KIND = 7;
+    private static final int MOST_FIGURE = 9;
     private static final int MOST_FADE = 9;
     private static final int MOST_RATE = 9;
     private static final int MOST_CHANCE = 10;
     private static final int MOST_STRENGTH = 60;
     private static final int ALL_FACTS = -1;
+    /** What FACTS may weigh, and a SUM or what is left of a thought may be, when one is asked about it. */
+    private static final int MOST_WEIGHED = 99;
+    private static final int MOST_ASKED = 999;
 
     private static final int OPEN = 0;
     private static final int FADE = 1;
@@ -116,21 +122,21 @@ public final class ThoughtBetterOf {
     }
 
     public int weighs(int p, int mood, int facts) {
-        if (isNobody(p) || isOut(mood, -MOST_MOOD, MOST_MOOD) || isOut(facts, -99, 99)) {
+        if (isNobody(p) || isOut(mood, -MOST_MOOD, MOST_MOOD) || isOut(facts, -MOST_WEIGHED, MOST_WEIGHED)) {
             return NO_SUCH_NUMBER;
         }
         return town.who[p].sumOf(mood, facts);
     }
 
     public int strength(int p, int sum) {
-        if (isNobody(p) || isOut(sum, -999, 999)) {
+        if (isNobody(p) || isOut(sum, -MOST_ASKED, MOST_ASKED)) {
             return NO_SUCH;
         }
         return town.who[p].strengthOf(sum);
     }
 
     public int price(int p, int v) {
-        if (isNobody(p) || isOut(v, 0, 999)) {
+        if (isNobody(p) || isOut(v, 0, MOST_ASKED)) {
             return NO_SUCH;
         }
         return town.who[p].priceOf(v, town.rule[RATE]);
@@ -176,7 +182,7 @@ public final class ThoughtBetterOf {
         }
         switch (what) {
             case 0: return town.factCase[fact];
-            case 1: return town.factWeight[fact] + 9;
+            case 1: return town.factWeight[fact] + MOST_WEIGHT;
             case 2: return town.factHour[fact];
             case 3: return town.factChance[fact];
             default: return NO_SUCH;
@@ -599,7 +605,7 @@ public final class ThoughtBetterOf {
             holds[d] = HOLDS_NOTHING;
             return 0;
         }
-        if (isOut(k, 0, 7) || isOut(figure, 0, 9)) {
+        if (isOut(k, 0, LAST_KIND) || isOut(figure, 0, MOST_FIGURE)) {
             return NO_SUCH;
         }
         kept[d] = oneOfKind(k, figure);
@@ -1128,7 +1134,8 @@ public final class ThoughtBetterOf {
         }
 
         int addFact(int itsCase, int weight, int itsHour) {
-            if (isOut(itsCase, 0, CASES - 1) || isOut(weight, -9, 9) || isOut(itsHour, 0, LAST_HOUR)) {
+            if (isOut(itsCase, 0, CASES - 1) || isOut(weight, -MOST_WEIGHT, MOST_WEIGHT)
+                    || isOut(itsHour, 0, LAST_HOUR)) {
                 return NO_SUCH;
             }
             if (facts >= MOST_FACTS) {
@@ -1183,7 +1190,8 @@ public final class ThoughtBetterOf {
         }
 
         int changeRule(int what, int v) {
-            if (isOut(what, OPEN, RATE) || isOut(v, what == RATE ? 1 : 0, what == OPEN ? LAST_HOUR : 9)) {
+            int most = what == OPEN ? LAST_HOUR : what == FADE ? MOST_FADE : MOST_RATE;
+            if (isOut(what, OPEN, RATE) || isOut(v, what == RATE ? 1 : 0, most)) {
                 return NO_SUCH;
             }
             int before = rule[what];
@@ -1273,7 +1281,11 @@ public final class ThoughtBetterOf {
                 case 'f':
                     return addFact(text.digitAt(at + 1), text.signedAt(at + 2), text.pairAt(at + 4));
                 case 'p':
-                    return hearOne(text, at);
+                    if (text.digitAt(at + 1) > LAST_KIND) {
+                        return NO_SUCH;
+                    }
+                    return addOne(oneOfKind(text.digitAt(at + 1), text.digitAt(at + 2)), text.digitAt(at + 3),
+                            text.pairAt(at + 4), text.signedAt(at + 6), text.pairAt(at + 8));
                 case 'k':
                     return turnKin(text.digitAt(at + 1), text.digitAt(at + 2));
                 case 't':
@@ -1288,15 +1300,6 @@ public final class ThoughtBetterOf {
                 default:
                     return NOT_SO;
             }
-        }
-
-        private int hearOne(Row text, int at) {
-            int kind = text.digitAt(at + 1);
-            if (isOut(kind, 0, 7)) {
-                return NO_SUCH;
-            }
-            return addOne(oneOfKind(kind, text.digitAt(at + 2)), text.digitAt(at + 3), text.pairAt(at + 4),
-                    text.signedAt(at + 6), text.pairAt(at + 8));
         }
     }
 
@@ -1353,6 +1356,8 @@ public final class ThoughtBetterOf {
             for (int hour = 0; hour <= LAST_HOUR; hour++) {
                 for (int p = 0; p < town.people; p++) {
                     if (due[p] == hour) {
+                        thinkFirst(p);
+                        buyBest(p);
                         choose(p);
                         thinkAgain(p);
                     }
@@ -1367,9 +1372,11 @@ public final class ThoughtBetterOf {
             fades[thought] = fade;
         }
 
+        private void thinkFirst(int p) {
+            firstSum[p] = town.who[p].sumOf(town.mood[p], town.weightOf(town.kase[p], due[p], there));
+        }
+
         private void choose(int p) {
-            firstSum[p] = sumKnownIn(p, due[p]);
-            buyBest(p);
             int thought = bought[p];
             if (thought < 0) {
                 choice[p] = sideOf(firstSum[p]);
@@ -1384,15 +1391,11 @@ public final class ThoughtBetterOf {
             if (hour > LAST_HOUR) {
                 return;
             }
-            int second = sumKnownIn(p, hour);
+            Plain one = town.who[p];
+            int second = one.sumOf(town.mood[p], town.weightOf(town.kase[p], hour, there));
             if (second != 0 && sideOf(second) != choice[p]) {
-                Plain one = town.who[p];
                 offer(p, sideOf(second), one.strengthOf(second), hour, one.fadeBy(town.rule[FADE]));
             }
-        }
-
-        private int sumKnownIn(int p, int hour) {
-            return town.who[p].sumOf(town.mood[p], town.weightOf(town.kase[p], hour, there));
         }
 
         /** Of the thoughts for sale one takes the best that it BUYS and can pay, if there is one. */

@@ -100,7 +100,8 @@ public final class ShelfTest {
     }
 
     private static void promise42Count() {
-        ThoughtBetterOf x = Towns.of("o07;d3;r6;k13;k02;f2-411;f1+512;f1+512;t3-214509;p71323-999;p12220+734;p12220+701;");
+        ThoughtBetterOf x = Towns.of("o07;d3;r6;k13;k02;f2-411;f1+512;f1+512;t3-214509;"
+                + "p71323-999;p12220+734;p12220+701;");
         int[] due = {3, 3, 1, 7, 3, 6, 134, 2};
         for (int what = 0; what < due.length; what++) {
             Due.is("count(" + what + ")", x.count(what), due[what]);

@@ -56,4 +56,54 @@ final class Towns {
             x.put(d, i, values[i]);
         }
     }
+
+    /** What there is, as far as it can be told: shelves, too, but not what restore() would bring. */
+    static String told(ThoughtBetterOf x) {
+        StringBuilder all = new StringBuilder("counts ");
+        for (int what = 0; what < 8; what++) {
+            all.append(x.count(what)).append(' ');
+        }
+        for (int p = 0; p < x.count(0); p++) {
+            all.append("one ");
+            for (int what = 0; what < 7; what++) {
+                all.append(x.person(p, what)).append(' ');
+            }
+        }
+        for (int f = 0; f < x.count(1); f++) {
+            all.append("fact ");
+            for (int what = 0; what < 4; what++) {
+                all.append(x.about(f, what)).append(' ');
+            }
+        }
+        all.append("market ");
+        for (int hour = 0; hour < 24; hour++) {
+            all.append(x.market(hour)).append(' ');
+        }
+        all.append("kin ");
+        for (int pair = 0; pair < 6; pair++) {
+            int a = "000112".charAt(pair) - '0';
+            int b = "123233".charAt(pair) - '0';
+            x.kin(a, b);
+            all.append(x.kin(a, b));
+        }
+        for (int d = 0; d < 8; d++) {
+            all.append(" shelf ").append(x.cost(d)).append(' ').append(x.toss(d));
+            if (x.cost(d) == -12) {
+                all.append(elements(x, d));
+            }
+        }
+        return all.toString();
+    }
+
+    private static String elements(ThoughtBetterOf x, int d) {
+        StringBuilder all = new StringBuilder();
+        try {
+            for (int i = 0; i < 100; i++) {
+                all.append(' ').append(x.element(d, i));
+            }
+        } catch (IllegalStateException behindTheLast) {
+            all.append('.');
+        }
+        return all.toString();
+    }
 }
