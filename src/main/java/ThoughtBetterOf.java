@@ -16,10 +16,10 @@ public final class ThoughtBetterOf {
     private static final int MOST_RATE = 9;
     private static final int MOST_CHANCE = 10;
     private static final int MOST_STRENGTH = 60;
-    private static final int ALL_FACTS = -1;
     /** What FACTS may weigh, and a SUM or what is left of a thought may be, when one is asked about it. */
     private static final int MOST_WEIGHED = 99;
     private static final int MOST_ASKED = 999;
+    private static final int ALL_FACTS = -1;
 
     private static final int OPEN = 0;
     private static final int FADE = 1;

@@ -70,7 +70,7 @@ final class TermsOfQuestions {
                 Said.is("sums(" + what + ") of " + texts[i], Towns.of(texts[i]).sums(what), due[i][what]);
             }
         }
-        Said.is("all eight REGRET", Towns.of("f0+101;" + "p00000-000;".repeat(8)).sums(5), 8);
+        Said.is("all eight REGRET, no PLANT", Towns.of("f0+101;t1+600000;" + "p00000-000;".repeat(8)).sums(5), 8);
     }
 
     private static void market() {
@@ -303,6 +303,8 @@ final class TermsOfQuestions {
         // 1 is left, for 1 with RATES 1 to 4, 2 with 5 to 8, 3 with 9
         Said.is("1 left, 2 COINS", Towns.of("o00;d0;f0+401;p00000-300;p00002-402;").bestRate(), 5);
         Said.is("1 left, 1 of COINS", Towns.of("o00;d0;f0+401;p00000-300;p00002-401;").bestRate(), 1);
+        // a CHILD's 1 is given away till RATE 4, and costs 1 from 5 on
+        Said.is("1 of a CHILD's", Towns.of("o00;d0;f0+401;p60000-300;p00002-401;").bestRate(), 5);
         Said.is("a PLANT's, the same by all", Towns.of("t0-050700;p00000+109;").bestRate(), 1);
         Said.so("BEST OPEN: with which fewest REGRET, of several the least.");
         Said.is("nobody", new ThoughtBetterOf().bestOpen(), 0);
