@@ -32,7 +32,8 @@ public final class ReadmeTest {
     }
 
     private static void exampleAnswersAsTold(String readme) throws Exception {
-        String example = readme.substring(readme.indexOf("```java"), readme.indexOf("```\n", readme.indexOf("```java")));
+        int from = readme.indexOf("```java");
+        String example = readme.substring(from, readme.indexOf("```\n", from));
         Matcher text = Pattern.compile("String text = \"(.*)\";").matcher(example);
         Due.that("the example has a text", text.find());
         ThoughtBetterOf town = new ThoughtBetterOf();
